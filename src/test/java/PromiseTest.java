@@ -546,7 +546,22 @@ public final class PromiseTest {
         due("alone(2, 500) where a thing is", x.alone(2, 500), NOT_POSSIBLE);
         due("alone(1, 600)", x.alone(1, 600), NOT_FOUND);
         due("alone(2, 499)", x.alone(2, 499), 95);
+        due("alone(1, 1)", x.alone(1, 1), NOT_POSSIBLE);
+        aloneOfOneLine();
         aloneBesideLostLines();
+    }
+
+    private static void aloneOfOneLine() {
+        JoinedLight x = new JoinedLight();
+        x.line(780, 1);
+        due("alone(0, 1)", x.alone(0, 1), 0);
+        due("alone(0, 999)", x.alone(0, 999), 0);
+        x.prism(1, 0, 20, 1);
+        due("alone(0, 1) where a thing is", x.alone(0, 1), NOT_POSSIBLE);
+        due("alone(0, 2)", x.alone(0, 2), 0);
+        due("alone(0, 999)", x.alone(0, 999), 99);
+        x.line(780, 1);
+        due("alone(1, 999) beside the line 0", x.alone(1, 999), NOT_POSSIBLE);
     }
 
     /** Lines that height() does not find have no height that another one could have as well. */
@@ -589,6 +604,12 @@ public final class PromiseTest {
         JoinedLight z = new JoinedLight();
         z.prism(500, 0, 50, 1);
         due("without lines the least", z.tuned(500), 1);
+        JoinedLight steep = new JoinedLight();
+        steep.line(780, 1);
+        steep.prism(100, 1, 10, 1);
+        steep.prism(200, 1, 99, 1);
+        steep.slit(999, 528, 600);
+        due("the line comes by the strongest alone", steep.tuned(200), 99);
     }
 
     private static void share() {
@@ -606,6 +627,9 @@ public final class PromiseTest {
         y.take(600);
         y.slit(600, 9999, 9999);
         due("none", y.share(), 0);
+        JoinedLight z = new JoinedLight();
+        z.line(500, 1);
+        due("1 of 1", z.share(), Float.floatToRawIntBits(1f));
         eachShare();
     }
 
