@@ -575,10 +575,10 @@ public final class JoinedLight {
             if (indexOf(place) >= 0) {
                 return NOT_POSSIBLE;
             }
-            if (thingCount < 0 || thingCount >= MOST_THINGS) {
+            int index = thingsAhead(place);
+            if (thingCount >= MOST_THINGS || index >= MOST_THINGS) {
                 return LIMIT_REACHED;
             }
-            int index = thingsAhead(place);
             for (int i = thingCount; i > index; i--) {
                 copyThing(i - 1, i);
             }
@@ -592,6 +592,9 @@ public final class JoinedLight {
         }
 
         private void copyThing(int from, int to) {
+            if (!within(from, 0, MOST_THINGS - 1) || !within(to, 0, MOST_THINGS - 1)) {
+                return;
+            }
             places[to] = places[from];
             kinds[to] = kinds[from];
             firsts[to] = firsts[from];
@@ -704,6 +707,9 @@ public final class JoinedLight {
         }
 
         private void finish(int line, int place, int why) {
+            if (!within(line, 0, MOST_LINES - 1)) {
+                return;
+            }
             lostAt[line] = place;
             lostWhy[line] = why;
         }
@@ -840,10 +846,15 @@ public final class JoinedLight {
         }
 
         private int rankOf(int slot) {
+            if (!hasSlot(slot)) {
+                return -1;
+            }
+            int light = lights[slot];
+            int number = numbers[slot];
             int rank = 0;
             for (int other = 0; other < MOST_LINES && hasSlot(other); other++) {
-                boolean brighter = lights[other] > lights[slot];
-                boolean lower = lights[other] == lights[slot] && numbers[other] < numbers[slot];
+                boolean brighter = lights[other] > light;
+                boolean lower = lights[other] == light && numbers[other] < number;
                 if (brighter || lower) {
                     rank++;
                 }

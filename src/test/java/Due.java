@@ -6,6 +6,7 @@ final class Due {
     static final int NOT_FOUND = -1000000004;
 
     private static String part = "";
+    private static int parts = 0;
     private static int asked = 0;
     private static int wrong = 0;
 
@@ -14,6 +15,7 @@ final class Due {
 
     static void part(String name) {
         part = name;
+        parts++;
     }
 
     static void due(String call, long got, long want) {
@@ -37,7 +39,7 @@ final class Due {
     }
 
     static void end() {
-        System.out.println(asked + " answers, " + wrong + " not as due");
+        System.out.println(asked + " answers in " + parts + " parts, " + wrong + " not as due");
         if (wrong != 0 || asked == 0) {
             System.exit(1);
         }

@@ -44,15 +44,9 @@ public final class PromiseTest {
         Due.due(call, got, want);
     }
 
-    private static void write(JoinedLight x, String text) {
-        for (int i = 0; i < text.length(); i++) {
-            x.type(text.charAt(i));
-        }
-    }
-
     private static void fault(String text, int position, int reason, int cause) {
         JoinedLight x = new JoinedLight();
-        write(x, text);
+        Scene.write(x, text);
         faultIn(x, text, position, reason, cause);
     }
 
@@ -61,16 +55,6 @@ public final class PromiseTest {
         due("fault(1) of " + text, x.fault(1), reason);
         due("fault(2) of " + text, x.fault(2), cause);
         due("play() of " + text, x.play(), NOT_POSSIBLE);
-    }
-
-    /** Three lines through a flint prism at 100: on the screen at 261, 239 and 216, slopes 290, 266 and 240. */
-    private static JoinedLight rainbow() {
-        JoinedLight x = new JoinedLight();
-        x.line(400, 100);
-        x.line(580, 200);
-        x.line(780, 50);
-        x.prism(100, 1, 40, 1);
-        return x;
     }
 
     private static void newObject() {
@@ -205,7 +189,7 @@ public final class PromiseTest {
     private static void slitEdges() {
         int[][] edges = {{120, 145, 7}, {121, 145, 3}, {120, 144, 6}, {133, 133, 2}, {134, 144, 0}, {-9999, 9999, 7}};
         for (int[] edge : edges) {
-            JoinedLight x = rainbow();
+            JoinedLight x = Scene.rainbow();
             due("slit(600, ..)", x.slit(600, edge[0], edge[1]), 2);
             due("count(2) behind " + edge[0] + " to " + edge[1], x.count(2), edge[2]);
         }
@@ -213,7 +197,7 @@ public final class PromiseTest {
 
     private static void take() {
         Due.part("promise 6");
-        JoinedLight x = rainbow();
+        JoinedLight x = Scene.rainbow();
         x.slit(600, 0, 0);
         x.prism(50, 0, 1, 1);
         due("take(0)", x.take(0), INVALID);
@@ -276,7 +260,7 @@ public final class PromiseTest {
 
     private static void set() {
         Due.part("promise 8");
-        JoinedLight x = rainbow();
+        JoinedLight x = Scene.rainbow();
         due("set(-1, 5)", x.set(-1, 5), INVALID);
         due("set(1, 5)", x.set(1, 5), INVALID);
         due("set(0, 0)", x.set(0, 0), INVALID);
@@ -293,7 +277,7 @@ public final class PromiseTest {
 
     private static void lineOf() {
         Due.part("promise 9");
-        JoinedLight x = rainbow();
+        JoinedLight x = Scene.rainbow();
         due("lineOf(3, 0)", x.lineOf(3, 0), INVALID);
         due("lineOf(-1, 0)", x.lineOf(-1, 0), INVALID);
         due("lineOf(0, -1)", x.lineOf(0, -1), INVALID);
@@ -366,7 +350,7 @@ public final class PromiseTest {
 
     private static void thing() {
         Due.part("promise 10");
-        JoinedLight x = rainbow();
+        JoinedLight x = Scene.rainbow();
         x.slit(600, 130, 150);
         x.prism(700, 0, 8, -1);
         due("thing(-1, 0)", x.thing(-1, 0), INVALID);
@@ -390,7 +374,7 @@ public final class PromiseTest {
 
     private static void height() {
         Due.part("promise 11");
-        JoinedLight x = rainbow();
+        JoinedLight x = Scene.rainbow();
         x.slit(600, 130, 150);
         due("height(-1, 0)", x.height(-1, 0), INVALID);
         due("height(3, 0)", x.height(3, 0), INVALID);
@@ -418,7 +402,7 @@ public final class PromiseTest {
 
     private static void light() {
         Due.part("promise 12");
-        JoinedLight x = rainbow();
+        JoinedLight x = Scene.rainbow();
         due("light(-10000)", x.light(-10000), INVALID);
         due("light(10000)", x.light(10000), INVALID);
         due("light(LEAST)", x.light(LEAST), INVALID);
@@ -441,7 +425,7 @@ public final class PromiseTest {
 
     private static void bright() {
         Due.part("promise 13");
-        JoinedLight x = rainbow();
+        JoinedLight x = Scene.rainbow();
         due("bright(-1, 0)", x.bright(-1, 0), INVALID);
         due("bright(0, -1)", x.bright(0, -1), INVALID);
         due("bright(0, 3)", x.bright(0, 3), INVALID);
@@ -486,7 +470,7 @@ public final class PromiseTest {
 
     private static void best() {
         Due.part("promise 15");
-        JoinedLight x = rainbow();
+        JoinedLight x = Scene.rainbow();
         due("best(99, 0)", x.best(99, 0), INVALID);
         due("best(0, 0)", x.best(0, 0), INVALID);
         due("best(1000, 0)", x.best(1000, 0), INVALID);
@@ -519,7 +503,7 @@ public final class PromiseTest {
 
     /** A slit that lets through 0 alone is best ahead of the prism, though the spread of none is less. */
     private static void bestPrefersArrivals() {
-        JoinedLight x = rainbow();
+        JoinedLight x = Scene.rainbow();
         x.slit(600, 0, 0);
         due("count(2)", x.count(2), 0);
         due("best(600, 0)", x.best(600, 0), 10);
@@ -529,7 +513,7 @@ public final class PromiseTest {
 
     private static void alone() {
         Due.part("promise 16");
-        JoinedLight x = rainbow();
+        JoinedLight x = Scene.rainbow();
         x.line(400, 5);
         due("alone(-1, 50)", x.alone(-1, 50), INVALID);
         due("alone(4, 50)", x.alone(4, 50), INVALID);
@@ -585,7 +569,7 @@ public final class PromiseTest {
 
     private static void tuned() {
         Due.part("promise 17");
-        JoinedLight x = rainbow();
+        JoinedLight x = Scene.rainbow();
         x.slit(600, 0, 300);
         due("tuned(600)", x.tuned(600), INVALID);
         due("tuned(0)", x.tuned(0), INVALID);
@@ -595,7 +579,7 @@ public final class PromiseTest {
         x.prism(200, 1, 99, -1);
         due("thing(1, 3)", x.thing(1, 3), 99);
         due("count(11)", x.count(11), 4);
-        JoinedLight y = rainbow();
+        JoinedLight y = Scene.rainbow();
         y.prism(101, 1, 1, -1);
         due("as strong as the one ahead", y.tuned(101), 40);
         due("thing(1, 3)", y.thing(1, 3), 1);
@@ -618,7 +602,7 @@ public final class PromiseTest {
         due("without lines", x.share(), NOT_FOUND);
         x.prism(5, 1, 10, 1);
         due("without lines", x.share(), NOT_FOUND);
-        JoinedLight y = rainbow();
+        JoinedLight y = Scene.rainbow();
         due("all", y.share(), Float.floatToRawIntBits(1f));
         y.slit(600, 134, 999);
         due("100 of 350", y.share(), Float.floatToRawIntBits(100f / 350f));
@@ -655,9 +639,9 @@ public final class PromiseTest {
 
     private static void count() {
         Due.part("promise 19");
-        JoinedLight x = rainbow();
+        JoinedLight x = Scene.rainbow();
         x.slit(600, 121, 999);
-        write(x, "l5");
+        Scene.write(x, "l5");
         int[] wanted = {3, 2, 3, 22, 0, 0, 350, 300, 50, 0, 2, 4, 2};
         for (int what = 0; what <= 12; what++) {
             due("count(" + what + ")", x.count(what), wanted[what]);
@@ -684,7 +668,7 @@ public final class PromiseTest {
         x.slit(998, 1, 1);
         due("none comes", x.count(4), 0);
         due("none comes, as it was", x.count(5), 0);
-        JoinedLight y = rainbow();
+        JoinedLight y = Scene.rainbow();
         y.set(0, 500);
         due("three in a cell", y.count(4), 1);
         y.slit(600, 121, 999);
@@ -714,12 +698,12 @@ public final class PromiseTest {
     }
 
     private static void undoOfEachChange() {
-        JoinedLight x = rainbow();
+        JoinedLight x = Scene.rainbow();
         x.dim(0, 7);
         x.move(100, 200);
         x.set(0, 33);
         x.take(200);
-        write(x, "x5;");
+        Scene.write(x, "x5;");
         due("undo() of take", x.undo(), 3);
         due("thing(0, 0)", x.thing(0, 0), 200);
         due("undo() of set", x.undo(), 2);
@@ -761,7 +745,7 @@ public final class PromiseTest {
         Due.part("promise 22");
         JoinedLight x = new JoinedLight();
         due("clearText()", x.clearText(), 0);
-        write(x, "l500,5;");
+        Scene.write(x, "l500,5;");
         due("clearText()", x.clearText(), 7);
         due("count(12)", x.count(12), 0);
         due("play()", x.play(), 0);
@@ -781,7 +765,7 @@ public final class PromiseTest {
         due("fault(0) of nothing", x.fault(0), NOT_FOUND);
         due("fault(1) of nothing", x.fault(1), NOT_FOUND);
         due("fault(2) of nothing", x.fault(2), NOT_FOUND);
-        write(x, "l500,5;u0010,1,099;d20,0,1;s30,0;x10;");
+        Scene.write(x, "l500,5;u0010,1,099;d20,0,1;s30,0;x10;");
         due("fault(0) of a good text", x.fault(0), NOT_FOUND);
         due("fault(2) of a good text", x.fault(2), NOT_FOUND);
         due("nothing is done", x.count(0) + x.count(1) + x.count(11), 0);
@@ -831,7 +815,7 @@ public final class PromiseTest {
         for (int i = 0; i < 7; i++) {
             x.line(500, 1);
         }
-        write(x, "l500,5;l500,6;");
+        Scene.write(x, "l500,5;l500,6;");
         faultIn(x, "a ninth line", 7, 2, LIMIT);
         due("count(0)", x.count(0), 7);
         x.undo();
@@ -843,7 +827,7 @@ public final class PromiseTest {
         JoinedLight x = new JoinedLight();
         due("play() of nothing", x.play(), 0);
         due("it is a change", x.count(11), 1);
-        write(x, "l400,100;l580,200;l780,50;u100,1,40;s600,130;");
+        Scene.write(x, "l400,100;l580,200;l780,50;u100,1,40;s600,130;");
         due("play()", x.play(), 5);
         due("it is one change", x.count(11), 2);
         due("the text stays", x.count(12), 45);
@@ -865,7 +849,7 @@ public final class PromiseTest {
     private static void playOfEachOrder() {
         JoinedLight x = new JoinedLight();
         x.slit(7, 0, 0);
-        write(x, "l0380,0999;u0010,1,0099;d20,0,05;s30,9999;s40,0;x0007;");
+        Scene.write(x, "l0380,0999;u0010,1,0099;d20,0,05;s30,9999;s40,0;x0007;");
         due("play()", x.play(), 6);
         int[][] wanted = {{10, 0, 1, 99, 1}, {20, 0, 0, 5, 2}, {30, 1, -9999, 9999, NOT_FOUND}, {40, 1, 0, 0, NOT_FOUND}};
         for (int index = 0; index < 4; index++) {
@@ -877,11 +861,11 @@ public final class PromiseTest {
         due("lineOf(0, 1)", x.lineOf(0, 1), 999);
         due("thing(4, 0)", x.thing(4, 0), NOT_FOUND);
         JoinedLight y = new JoinedLight();
-        write(y, "s1,0;x1;s1,0;x1;s1,0;x1;s1,0;x1;s1,0;x1;s1,0;x1;s1,0;x1;s1,");
+        Scene.write(y, "s1,0;x1;s1,0;x1;s1,0;x1;s1,0;x1;s1,0;x1;s1,0;x1;s1,0;x1;s1,");
         y.type('5');
         due("fault(2) of a full text", y.fault(2), 4);
         y.clearText();
-        write(y, "s1,0;x1;s1,0;x1;s1,0;x1;s1,0;x1;s1,0;x1;s1,0;x1;s1,0;x1;");
+        Scene.write(y, "s1,0;x1;s1,0;x1;s1,0;x1;s1,0;x1;s1,0;x1;s1,0;x1;s1,0;x1;");
         due("play() of 14 orders", y.play(), 14);
     }
 }
